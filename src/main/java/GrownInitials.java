@@ -7,7 +7,9 @@ public final class GrownInitials {
 
     private static final int LACKING = -2;
     private static final int AMPERSAND = -3;
+    private static final int WRONG_WORDS = -2;
     private static final int WRONG_ROW = -3;
+    private static final int NOT_CHECKED = -2;
     private static final int END = -1;
     private static final int ALL = 100;
 
@@ -19,6 +21,7 @@ public final class GrownInitials {
     private static final int LAST_SEASON = 9999;
     private static final int MOST_CALLS = 9999;
     private static final int FULL_MEMORY = 99;
+    private static final int NO_CUT = 255;
 
     private static final int GROWING = 0;
     private static final int UP = 1;
@@ -69,7 +72,7 @@ public final class GrownInitials {
     }
 
     public int feed(int a, int b, int c, int d, int e) {
-        if (!tape.hasRoomFor(20)) {
+        if (tape.size + Tape.FED > Tape.MOST_BYTES) {
             return NONE;
         }
         tape.addWord(a);
@@ -358,7 +361,7 @@ public final class GrownInitials {
         boolean isRight = spelling.read(tape, n);
         tape.clear();
         if (!isRight) {
-            return LACKING;
+            return WRONG_WORDS;
         }
         spelling.stock(cuts, now);
         int bits = spelling.mostAtOnce();
@@ -381,7 +384,7 @@ public final class GrownInitials {
     }
 
     public int orders(int n, int m, int what) {
-        if (n < 2 || n > Rows.MOST_ORDERED || m < 1 || m > 20 || 2 * m > tape.size) {
+        if (n < 2 || n > Rows.MOST_ORDERED || m < 1 || m > Rows.MOST_TWOS || 2 * m > tape.size) {
             return NONE;
         }
         if (what != ALL && (what < 0 || what >= n)) {
@@ -421,11 +424,11 @@ public final class GrownInitials {
 
     public int check(int n) {
         if (n < 0 || n > MOST_CUTS || n > tape.size) {
-            return LACKING;
+            return NOT_CHECKED;
         }
         int wrong = NONE;
         for (int c = n - 1; c >= 0; c--) {
-            int due = isCut(c) ? now.memory[c] : 255;
+            int due = isCut(c) ? now.memory[c] : NO_CUT;
             if (tape.at(c) != due) {
                 wrong = c;
             }
@@ -515,16 +518,15 @@ public final class GrownInitials {
 
     /** The bytes that wait to be read. */
     private static final class Tape {
+        private static final int MOST_BYTES = 260;
+        private static final int FED = 20;
+
         private final int[] bytes;
         private int size;
 
         Tape() {
-            bytes = new int[260];
+            bytes = new int[MOST_BYTES];
             size = 0;
-        }
-
-        boolean hasRoomFor(int more) {
-            return size + more <= bytes.length;
         }
 
         void addWord(int word) {
@@ -829,7 +831,7 @@ public final class GrownInitials {
                 int number = cells[i] >> 8;
                 if (sign == NUMBER || sign == LETTER) {
                     top = Math.min(top + 1, MOST_STACKED - 1);
-                    stack[top] = sign == NUMBER || number >= letters.length ? number : letters[number];
+                    stack[top] = operand(sign, number, letters);
                 } else if (sign == '!') {
                     stack[top] = 1 - stack[top];
                 } else if (sign == '&' || sign == '|') {
@@ -845,6 +847,11 @@ public final class GrownInitials {
                 }
             }
             return isRefused ? 0 : stack[top];
+        }
+
+        private static int operand(int sign, int number, int[] letters) {
+            boolean isLetter = sign == LETTER && number >= 0 && number < letters.length;
+            return isLetter ? letters[number] : number;
         }
 
         private int joined(int sign, int left, int right) {
@@ -1379,6 +1386,7 @@ public final class GrownInitials {
     private static final class Rows {
         private static final int MOST_TOLD = 9;
         private static final int MOST_ORDERED = 10;
+        private static final int MOST_TWOS = 20;
 
         private final int[] table;
         private final int[] told;

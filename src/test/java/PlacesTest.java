@@ -10,6 +10,7 @@ public final class PlacesTest {
         fence();
         crossing();
         pathsAndTrees();
+        thirtyTwoTrees();
         round();
         DUE.end();
     }
@@ -185,6 +186,35 @@ public final class PlacesTest {
         g = Due.common("0,0:A;5,0:B", "f99(s=2)");
         g.seasons(3);
         DUE.is("ROOTED in their trees", g.trees(), 2);
+    }
+
+    /** Sixteen cuts near a curve, each rooted beside its tree on a curve farther out. */
+    private static void thirtyTwoTrees() {
+        int[][] inner = {{8, 4}, {9, 3}, {11, 2}, {13, 2}, {15, 3}, {16, 4}, {17, 6}, {17, 8},
+            {16, 10}, {15, 11}, {13, 12}, {11, 12}, {9, 11}, {8, 10}, {7, 8}, {7, 6}};
+        StringBuilder bark = new StringBuilder();
+        for (int[] spot : inner) {
+            bark.append(bark.length() == 0 ? "" : ";").append(spot[0]).append(',').append(spot[1]).append(":A");
+        }
+        GrownInitials g = Due.common(bark.toString());
+        for (int c = 0; c < 16; c++) {
+            int outX = inner[c][0] < 12 ? -1 : 1;
+            int outY = inner[c][1] < 7 ? -1 : 1;
+            g.home(c, inner[c][0] + outX, inner[c][1] + outY);
+        }
+        DUE.is("sixteen trees", g.trees(), 16);
+        DUE.is("sixteen corners", g.fence(0), 16);
+        DUE.is("ground", g.fence(1), 156);
+        DUE.is("paths of sixteen", g.paths(), 37);
+        g.seasons(2);
+        Due.law(g, "v2(1=1);f99(1=1)");
+        g.seasons(1);
+        DUE.is("all rooted", g.count(3), 65535);
+        DUE.is("thirty-two trees", g.trees(), 32);
+        DUE.is("in the yard", g.yard(0, 23, 0, 15), 32);
+        DUE.is("sixteen corners farther out", g.fence(0), 16);
+        DUE.is("more ground", g.fence(1), 244);
+        DUE.is("paths of thirty-two", g.paths(), 69);
     }
 
     private static void round() {

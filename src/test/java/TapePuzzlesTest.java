@@ -144,6 +144,12 @@ public final class TapePuzzlesTest {
         DUE.is("marriages(6, 100) of 60 bytes", g.marriages(6, 100), -1);
         DUE.is("tape stays", g.count(6), 60);
         DUE.is("marriages(5, 100) of 60 bytes", g.marriages(5, 100), -3);
+        for (int i = 0; i < 13; i++) {
+            g.feed(0, 0, 0, 0, 0);
+        }
+        DUE.is("marriages(7, 100) of 260 bytes", g.marriages(7, 100), -1);
+        DUE.is("orders(11, 1, 100) of 260 bytes", g.orders(11, 1, 100), -1);
+        DUE.is("words(61, 0) of 260 bytes", g.words(61, 0), -1);
     }
 
     private static void ordered(int n, int what, int due, int... twos) {
