@@ -516,17 +516,23 @@ public final class GrownInitials {
             || isOnWay(a, b, c) || isOnWay(a, b, d) || isOnWay(c, d, a) || isOnWay(c, d, b);
     }
 
-    /** The bytes that wait to be read. */
+    /** The bytes that wait to be read, and how far a text of them has been read. */
     private static final class Tape {
         private static final int MOST_BYTES = 260;
         private static final int FED = 20;
 
         private final int[] bytes;
         private int size;
+        private int end;
+        private int at;
+        private int fault;
 
         Tape() {
             bytes = new int[MOST_BYTES];
             size = 0;
+            end = 0;
+            at = 0;
+            fault = 0;
         }
 
         void addWord(int word) {
@@ -542,6 +548,46 @@ public final class GrownInitials {
 
         void clear() {
             size = 0;
+        }
+
+        void beginText(int n) {
+            end = Math.min(n, size);
+            at = 0;
+            fault = 0;
+        }
+
+        /** Behind a fault nothing more is there to read: so the first one stays the only one. */
+        int sign() {
+            return fault == 0 && at >= 0 && at < end ? bytes[at] : END;
+        }
+
+        void fail(int number, int place) {
+            if (fault == 0) {
+                fault = -1000 * number - place;
+            }
+        }
+
+        boolean mayTake(char due) {
+            boolean isThere = sign() == due;
+            if (isThere) {
+                at++;
+            }
+            return isThere;
+        }
+
+        void take(char due) {
+            if (sign() == due) {
+                at++;
+            } else {
+                fail(1, at);
+            }
+        }
+
+        int endText(int told) {
+            if (at < end) {
+                fail(1, at);
+            }
+            return fault == 0 ? told : fault;
         }
     }
 
@@ -603,106 +649,67 @@ public final class GrownInitials {
 
         private final Tape tape;
         private final Cuts draft;
-        private int end;
-        private int at;
-        private int fault;
 
         BarkReader(Tape tape) {
             this.tape = tape;
             draft = new Cuts();
-            end = 0;
-            at = 0;
-            fault = 0;
         }
 
         int read(int n) {
-            end = n;
-            at = 0;
-            fault = 0;
+            tape.beginText(n);
             draft.size = 0;
             boolean isMore = true;
             for (int c = 0; c <= MOST_CUTS && isMore; c++) {
                 cut(c);
-                isMore = sign() == ';';
-                if (isMore) {
-                    at++;
-                }
+                isMore = tape.mayTake(';');
             }
-            if (at < end) {
-                fail(1, at);
-            }
-            return fault == 0 ? draft.size : fault;
+            return tape.endText(draft.size);
         }
 
         private void cut(int c) {
             if (c >= MOST_CUTS) {
-                fail(isDigit(sign()) ? 4 : 1, at);
+                tape.fail(isDigit(tape.sign()) ? 4 : 1, tape.at);
                 return;
             }
             int x = number(WIDTH - 1);
-            take(',');
+            tape.take(',');
             int y = number(HEIGHT - 1);
-            take(':');
+            tape.take(':');
             draft.tree[c] = WIDTH * y + x;
             draft.dwelling[c] = draft.tree[c];
-            draft.crossed[c] = mayTake('x');
-            draft.heart[c] = mayTake('[');
+            draft.crossed[c] = tape.mayTake('x') ? 1 : 0;
+            draft.heart[c] = tape.mayTake('[') ? 1 : 0;
             draft.first[c] = letter();
             draft.second[c] = secondOne(draft.first[c]);
             if (draft.heart[c] == 1) {
-                take(']');
+                tape.take(']');
             }
-            draft.date[c] = isDigit(sign()) ? 10 * digit() + digit() : LACKING;
-            draft.arrow[c] = mayTake('>');
+            draft.date[c] = isDigit(tape.sign()) ? 10 * digit() + digit() : LACKING;
+            draft.arrow[c] = tape.mayTake('>') ? 1 : 0;
             draft.size = c + 1;
         }
 
-        /** Behind a fault nothing more is there to read: so the first one stays the only one. */
-        private int sign() {
-            return fault == 0 && at < end ? tape.at(at) : END;
-        }
-
-        private void fail(int number, int place) {
-            if (fault == 0) {
-                fault = -1000 * number - place;
-            }
-        }
-
-        private void take(char due) {
-            if (mayTake(due) == 0) {
-                fail(1, at);
-            }
-        }
-
-        private int mayTake(char due) {
-            if (sign() != due) {
-                return 0;
-            }
-            at++;
-            return 1;
-        }
-
         private int digit() {
-            int sign = sign();
+            int sign = tape.sign();
             if (!isDigit(sign)) {
-                fail(1, at);
+                tape.fail(1, tape.at);
                 return 0;
             }
-            at++;
+            tape.at++;
             return sign - '0';
         }
 
         private int number(int most) {
-            int start = at;
+            int start = tape.at;
             int value = digit();
-            if (isDigit(sign())) {
+            if (isDigit(tape.sign())) {
                 value = 10 * value + digit();
             }
-            if (isDigit(sign())) {
-                fail(2, at);
+            if (isDigit(tape.sign())) {
+                tape.fail(2, tape.at);
             }
             if (value > most) {
-                fail(3, start);
+                tape.fail(3, start);
             }
             return value;
         }
@@ -712,24 +719,24 @@ public final class GrownInitials {
         }
 
         private int letter() {
-            int sign = sign();
+            int sign = tape.sign();
             if (!isLetter(sign)) {
-                fail(1, at);
+                tape.fail(1, tape.at);
                 return 0;
             }
-            at++;
+            tape.at++;
             return sign - 'A';
         }
 
         private int secondOne(int before) {
-            int none = mayTake('&') == 1 ? AMPERSAND : LACKING;
-            if (!isLetter(sign())) {
+            int none = tape.mayTake('&') ? AMPERSAND : LACKING;
+            if (!isLetter(tape.sign())) {
                 return none;
             }
-            int start = at;
+            int start = tape.at;
             int second = letter();
             if (second == before) {
-                fail(6, start);
+                tape.fail(6, start);
             }
             return second;
         }
@@ -880,87 +887,54 @@ public final class GrownInitials {
 
         private final Tape tape;
         private final Law draft;
-        private int end;
-        private int at;
-        private int fault;
 
         LawReader(Tape tape) {
             this.tape = tape;
             draft = new Law();
-            end = 0;
-            at = 0;
-            fault = 0;
         }
 
         int read(int n) {
-            end = n;
-            at = 0;
-            fault = 0;
+            tape.beginText(n);
             draft.size = 0;
             draft.length = 0;
             boolean isMore = true;
             for (int r = 0; r <= Law.MOST_RULES && isMore; r++) {
                 rule(r);
-                isMore = sign() == ';';
-                if (isMore) {
-                    at++;
-                }
+                isMore = tape.mayTake(';');
             }
-            if (at < end) {
-                fail(1);
-            }
-            return fault == 0 ? draft.size : fault;
+            return tape.endText(draft.size);
         }
 
         private void rule(int r) {
-            int kind = sign();
+            int kind = tape.sign();
             if (kind != 'v' && kind != 'f' && kind != 'x') {
-                fail(1);
+                tape.fail(1, tape.at);
                 return;
             }
             if (r >= Law.MOST_RULES) {
-                fail(4);
+                tape.fail(4, tape.at);
                 return;
             }
-            at++;
+            tape.at++;
             draft.kind[r] = kind;
             draft.worthFrom[r] = draft.length;
             if (kind != 'x') {
                 sum(0);
             }
             draft.testFrom[r] = draft.length;
-            take('(');
+            tape.take('(');
             condition(1);
-            take(')');
+            tape.take(')');
             draft.testTo[r] = draft.length;
             draft.size = r + 1;
         }
 
-        /** Behind a fault nothing more is there to read: so the first one stays the only one. */
-        private int sign() {
-            return fault == 0 && at < end ? tape.at(at) : END;
-        }
-
-        private void fail(int number) {
-            if (fault == 0) {
-                fault = -1000 * number - at;
-            }
-        }
-
-        private void take(char due) {
-            if (sign() == due) {
-                at++;
-            } else {
-                fail(1);
-            }
-        }
-
         private boolean mayOpen(int open) {
             if (open < MOST_OPEN) {
-                at++;
+                tape.at++;
                 return true;
             }
-            fail(5);
+            tape.fail(5, tape.at);
             return false;
         }
 
@@ -968,28 +942,26 @@ public final class GrownInitials {
             int partEnds = NO_JUMP;
             int wholeEnds = NO_JUMP;
             boolean isMore = true;
-            for (int i = 0; i <= end && isMore; i++) {
+            for (int i = 0; i < Law.MOST_BYTES && isMore; i++) {
                 test(open);
-                int joint = sign();
-                isMore = joint == '&' || joint == '|';
-                if (joint == '&') {
+                boolean isAnd = tape.mayTake('&');
+                boolean isOr = !isAnd && tape.mayTake('|');
+                if (isAnd) {
                     partEnds = draft.addJump('&', partEnds);
                 } else {
                     draft.endJumps(partEnds);
                     partEnds = NO_JUMP;
                 }
-                if (joint == '|') {
+                if (isOr) {
                     wholeEnds = draft.addJump('|', wholeEnds);
                 }
-                if (isMore) {
-                    at++;
-                }
+                isMore = isAnd || isOr;
             }
             draft.endJumps(wholeEnds);
         }
 
         private void test(int open) {
-            int start = sign();
+            int start = tape.sign();
             if (start == '!') {
                 if (mayOpen(open)) {
                     test(open + 1);
@@ -1000,17 +972,17 @@ public final class GrownInitials {
             if (start == '(') {
                 if (mayOpen(open)) {
                     condition(open + 1);
-                    take(')');
+                    tape.take(')');
                 }
                 return;
             }
             sum(open);
-            int than = sign();
+            int than = tape.sign();
             if (than != '<' && than != '>' && than != '=') {
-                fail(1);
+                tape.fail(1, tape.at);
                 return;
             }
-            at++;
+            tape.at++;
             sum(open);
             draft.add((char) than, 0);
         }
@@ -1020,12 +992,12 @@ public final class GrownInitials {
             int plus = 0;
             int times = 0;
             boolean isMore = true;
-            for (int i = 0; i <= end && isMore; i++) {
+            for (int i = 0; i < Law.MOST_BYTES && isMore; i++) {
                 factor(open);
                 if (times != 0) {
                     draft.add((char) times, 0);
                 }
-                int joint = sign();
+                int joint = tape.sign();
                 times = joint == '*' || joint == '/' || joint == '%' ? joint : 0;
                 isMore = times != 0 || joint == '+' || joint == '-';
                 if (times == 0 && plus != 0) {
@@ -1035,34 +1007,34 @@ public final class GrownInitials {
                     plus = joint;
                 }
                 if (isMore) {
-                    at++;
+                    tape.at++;
                 }
             }
         }
 
         private void factor(int open) {
-            int start = sign();
+            int start = tape.sign();
             int letter = start >= 0 ? Law.LETTERS.indexOf((char) start) : -1;
             if (start == '[') {
                 if (mayOpen(open)) {
                     sum(open + 1);
-                    take(']');
+                    tape.take(']');
                 }
             } else if (letter >= 0) {
-                at++;
+                tape.at++;
                 draft.add(Law.LETTER, letter);
             } else if (isDigit(start)) {
                 int value = 0;
-                for (int i = 0; i < MOST_DIGITS && isDigit(sign()); i++) {
-                    value = 10 * value + sign() - '0';
-                    at++;
+                for (int i = 0; i < MOST_DIGITS && isDigit(tape.sign()); i++) {
+                    value = 10 * value + tape.sign() - '0';
+                    tape.at++;
                 }
                 draft.add(Law.NUMBER, value);
-                if (isDigit(sign())) {
-                    fail(2);
+                if (isDigit(tape.sign())) {
+                    tape.fail(2, tape.at);
                 }
             } else {
-                fail(1);
+                tape.fail(1, tape.at);
             }
         }
     }
