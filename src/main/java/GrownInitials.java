@@ -429,7 +429,7 @@ public final class GrownInitials {
         int wrong = NONE;
         for (int c = n - 1; c >= 0; c--) {
             int due = isCut(c) ? now.memory[c] : NO_CUT;
-            if (tape.at(c) != due) {
+            if (tape.byteAt(c) != due) {
                 wrong = c;
             }
         }
@@ -542,7 +542,7 @@ public final class GrownInitials {
             }
         }
 
-        int at(int i) {
+        int byteAt(int i) {
             return i >= 0 && i < size ? bytes[i] : END;
         }
 
@@ -1428,8 +1428,8 @@ public final class GrownInitials {
                 ahead[i] = 0;
             }
             for (int i = 0; i < m; i++) {
-                int one = tape.at(2 * i);
-                int other = tape.at(2 * i + 1);
+                int one = tape.byteAt(2 * i);
+                int other = tape.byteAt(2 * i + 1);
                 if (one < 0 || one >= n || other < 0 || other >= n || one == other) {
                     return false;
                 }
@@ -1494,7 +1494,7 @@ public final class GrownInitials {
             size = 0;
             int length = 0;
             for (int i = 0; i < n; i++) {
-                int sign = tape.at(i);
+                int sign = tape.byteAt(i);
                 boolean isEnd = sign == WORD_END;
                 boolean isLetter = sign >= 0 && sign < MOST_LETTERS;
                 if (size >= MOST_WORDS || isEnd && length == 0 || !isEnd && !isLetter) {
@@ -1587,7 +1587,7 @@ public final class GrownInitials {
         private boolean readRow(Tape tape, int from, int[] into, int start) {
             int named = 0;
             for (int i = 0; i < size; i++) {
-                int whom = tape.at(from + i);
+                int whom = tape.byteAt(from + i);
                 if (whom < 0 || whom >= size || (named >> whom & 1) == 1) {
                     return false;
                 }
