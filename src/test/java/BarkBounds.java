@@ -350,10 +350,11 @@ final class BarkBounds {
     /** Of sixteen, in each state, only one is left: nothing may be seen of the others. */
     private void fewerThanBefore() {
         GrownInitials g = Due.common("2,2:AB50>;".repeat(15) + "9,9:P", "f99(c>11);x(c>7&c<12)");
-        for (int c = 0; c < 16; c++) {
+        for (int c = 4; c < 16; c++) {
             g.home(c, 20, 10);
         }
         g.seasons(3);
+        b.is("CALLS of four, with a dog", g.count(4), 4 * 2);
         b.is("ABOUT", g.count(2), 0x00FF);
         b.is("ROOTED", g.count(3), 0xF000);
         Due.bark(g, "5,5:C");

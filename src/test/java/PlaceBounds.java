@@ -168,6 +168,13 @@ final class PlaceBounds {
         fenced("0,0:A;4,0:B;4,4:C;0,4:D;1,2:E", 4, 32);
         fenced("0,0:A;23,0:B;0,15:C;23,15:D", 4, 690);
         fenced("2,0:A;4,0:B;6,2:C;6,4:D;4,6:E;2,6:F;0,4:G;0,2:H;1,1:I;5,5:J", 8, 56);
+        GrownInitials again = Due.common("2,0:A;4,0:B;6,2:C;6,4:D;4,6:E;2,6:F;0,4:G;0,2:H;1,1:I;5,5:J");
+        b.is("eight corners", again.fence(0), 8);
+        Due.bark(again, "9,9:A;12,9:B;9,13:C");
+        b.is("nothing is left of the fence before", again.fence(1), 12);
+        b.is("three corners", again.fence(0), 3);
+        Due.bark(again, "9,9:A;12,9:B");
+        b.is("nor of this one", again.fence(1), 0);
         b.promise(20);
         b.sentence("A FENCE, what 0 corners, 1 twice the ground; NONE: no such what.");
         for (int what : new int[] {-1, 2, 100, Integer.MIN_VALUE, Integer.MAX_VALUE}) {
