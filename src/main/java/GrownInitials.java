@@ -1359,6 +1359,8 @@ public final class GrownInitials {
         private static final int MOST_TOLD = 9;
         private static final int MOST_ORDERED = 10;
         private static final int MOST_TWOS = 20;
+        /** More steps than any round can have. */
+        private static final int BEYOND_ALL = 1000000;
 
         private final int[] table;
         private final int[] told;
@@ -1402,7 +1404,7 @@ public final class GrownInitials {
             if (others == 0) {
                 return steps(spots[from], 0);
             }
-            int least = Integer.MAX_VALUE;
+            int least = BEYOND_ALL;
             for (int next = 0; next < many; next++) {
                 if ((others >> next & 1) == 1) {
                     int way = steps(spots[from], spots[next]) + table[MOST_TOLD * others + next];
@@ -1413,7 +1415,7 @@ public final class GrownInitials {
         }
 
         private void chooseFirst(int all, int many) {
-            fewest = Integer.MAX_VALUE;
+            fewest = BEYOND_ALL;
             for (int i = 0; i < many; i++) {
                 int way = steps(0, spots[i]) + table[MOST_TOLD * all + i];
                 if (way < fewest) {

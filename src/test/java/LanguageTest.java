@@ -94,6 +94,11 @@ public final class LanguageTest {
         for (String sign : wrong) {
             DUE.is("the source has " + sign, Pattern.compile(sign).matcher(code).find(), false);
         }
+        // of the library functions alone are listed, no constants of it
+        Matcher library = Pattern.compile("\\b(Integer|Long|Math|System|Arrays)\\.(\\w+)(\\(?)").matcher(code);
+        while (library.find()) {
+            DUE.is(library.group() + " is a function", library.group(3).isEmpty(), false);
+        }
         DUE.is("signs", source.chars().allMatch(c -> c == '\n' || c >= 32 && c < 127), true);
         // what is made is made in constructors and initialisers alone: 'new' stands behind ' = '
         Matcher made = Pattern.compile("\\n( +)(.*)\\bnew ").matcher(code);
